@@ -90,6 +90,7 @@ public final class PromiseTest {
         newObject();
         feed();
         text();
+        onlyTheFirstBytes();
         faultsOfTokens();
         faultsOfTooMuch();
         faultsOfTwiceAndUntold();
@@ -207,6 +208,43 @@ public final class PromiseTest {
         due("not struck", x.motion(0, 2), -1);
     }
 
+    private static void shorterThanTheTape(String tape, int n, int place) {
+        ForkCouncil x = new ForkCouncil();
+        byte[] bytes = Arrays.copyOf(tape.getBytes(StandardCharsets.ISO_8859_1), 20);
+        int[] numbers = new int[5];
+        for (int j = 0; j < 20; j++) {
+            numbers[j / 4] = numbers[j / 4] << 8 | bytes[j] & 255;
+        }
+        x.feed(numbers[0], numbers[1], numbers[2], numbers[3], numbers[4]);
+        due("the first " + n + " of " + tape, x.text(n), -1);
+        due("fault(0) of them", x.fault(0), 1);
+        due("fault(1) of them", x.fault(1), place);
+    }
+
+    private static void onlyTheFirstBytes() {
+        promise = "3 (the first n bytes)";
+        shorterThanTheTape("wet 12;", 5, 5);
+        shorterThanTheTape("wet 1;", 5, 5);
+        shorterThanTheTape("wet", 2, 0);
+        shorterThanTheTape("wet  1;", 4, 4);
+        shorterThanTheTape("law hum 1<=2;", 10, 10);
+        shorterThanTheTape("law hum 1<>2;", 10, 10);
+        shorterThanTheTape("law hum 1>=2;", 10, 10);
+        promise = "3 (a full tape)";
+        String blanks = times(" ", 694);
+        lines(blanks + "wet 1;", 1);
+        lines("wet 1;" + blanks, 1);
+        fault(times(" ", 695) + "table", 1, 700);
+        fault(times(" ", 692) + "table 12", 1, 700);
+        fault(times(" ", 690) + "law hum 1<", 1, 700);
+        fault("wet" + times(" ", 697), 1, 700);
+        fault("wet " + times("0", 696), 1, 700);
+        fault("wet " + times("9", 696), 2, 4);
+        fault(times("a", 700), 1, 0);
+        fault("law hum " + times("(", 692), 2, 16);
+        fault("law hum " + times("not ", 173), 2, 8 + 4 * 64);
+    }
+
     private static void faultsOfTokens() {
         promise = "3, 4 (1)";
         fault("Fork f 100 0 0 0;", 1, 0);
@@ -221,6 +259,10 @@ public final class PromiseTest {
         fault("motion hum 100 0;", 1, 7);
         fault("crack abcdefg;", 1, 6);
         fault("crack wet;", 1, 6);
+        fault("crack;", 1, 5);
+        fault("crack 1;", 1, 6);
+        fault("fork;", 1, 4);
+        fault("motion;", 1, 6);
         fault("table;", 1, 5);
         fault("table", 1, 5);
         fault("table  \n", 1, 8);
@@ -269,6 +311,19 @@ public final class PromiseTest {
         fault("table 99999999999999999999;", 2, 6);
         fault("table 4294967297;", 2, 6);
         fault("motion m 1000 0;", 2, 9);
+        fault("motion m 99 0;", 2, 9);
+        fault("motion m 100 100;", 2, 13);
+        fault("fork f 99 0 0 0;", 2, 7);
+        fault("fork f 1000 0 0 0;", 2, 7);
+        fault("fork f 100 100 0 0;", 2, 11);
+        fault("fork f 100 0 10 0;", 2, 13);
+        fault("fork f 100 0 0 4;", 2, 15);
+        fault("table 0;", 2, 6);
+        fault("table 100;", 2, 6);
+        fault("wet 10;", 2, 4);
+        fault("purse 1000 1;", 2, 6);
+        fault("purse 1 100;", 2, 8);
+        fault("rusty 10;", 2, 6);
         fault("seed 100000;", 2, 5);
         fault("law hum 10000;", 2, 8);
         lines(times("fork # 100 0 0 0;", 8), 8);
@@ -303,6 +358,7 @@ public final class PromiseTest {
         fault("motion a 100 0;motion b 100 0;motion a 100 0;", 3, 37);
         fault("table 1;table 1;", 3, 8);
         fault("purse 1 1;purse 1 1;", 3, 10);
+        fault("seed 1;table 1;rusty 1;purse 1 1;seed 1;", 3, 33);
         fault("rusty 1;rusty 1;", 3, 8);
         fault("law hum 1;law pass 1;law hum 1;", 3, 25);
         fault("law rust 1;law rust", 3, 15);
@@ -702,6 +758,7 @@ public final class PromiseTest {
         x = told("fork a 999 0 4 0;law hum note/99-9;");
         due("the last step", x.best(0), 990);
         due("its hum", x.best(1), 1);
+        due("999", told("fork a 999 0 4 0;law hum note=999;").best(0), 999);
         promise = "20";
         x = told("fork a 500 2 4 0;table 4;");
         // 498 .. 502, 998 .. 999 (twice 500 is 1000), 249 .. 251
@@ -740,6 +797,10 @@ public final class PromiseTest {
         due("999 at most", x.bribe(500, 4), -8);
         x = told("fork a 101 0 5 0;table 5;purse 0 1;law hum 5*(pitch<100);");
         due("100 at least", x.bribe(500, 4), -8);
+        String laws = "table 5;purse 0 1;law hum 5*(pitch>=1000 or pitch<100);";
+        due("999 at most, the second one", told("fork a 500 0 5 0;fork b 998 0 5 0;" + laws).bribe(500, 4), -8);
+        due("100 at least, the second one", told("fork a 500 0 5 0;fork b 101 0 5 0;" + laws).bribe(500, 4), -8);
+        due("the first one may, at the edge of the second", told("fork a 502 0 5 0;fork b 999 0 0 0;table 5;").bribe(500, 4), 10);
         x = told("fork a 300 0 1 0;fork b 300 0 1 0;fork c 300 0 1 0;fork d 300 0 1 0;fork e 501 0 9 0;fork f 500 0 3 0;table 4;");
         due("only the first four are filed", x.bribe(500, 4), -8);
         due("the fifth hums", x.bribe(501, 4), 0);
@@ -834,6 +895,13 @@ public final class PromiseTest {
         x = told("fork a 501 0 9 0;fork b 501 0 9 0;table 9;purse 0 1;law pass loud=9;");
         due("each would undo the other: none", x.rests(0, 1, 500), 0);
         due("none", x.rest(0, 1, 500, 0), -2);
+        // Carried as it is; the second one may undo it by one, and would have 1 of it, or 0.
+        x = told("fork a 700 0 9 0;fork b 500 0 9 0;table 9;purse 0 19;");
+        due("1 is more than 0", x.rest(0, 1, 500, 0), 21);
+        due("up or down", x.rest(0, 1, 500, 1), 23);
+        due("and no more", x.rests(0, 1, 500), 2);
+        x = told("fork a 700 0 9 0;fork b 500 0 9 0;table 9;purse 0 20;");
+        due("0 isn't: it may stay, too", x.rests(0, 1, 500), 3);
         // Held at 100 a and b can't get away, whatever they file.
         x = told("fork a 100 0 9 0;fork b 100 0 9 0;purse 0 0;law pass loud>0;law hum pitch=100;");
         due("held within", x.rests(0, 1, 500), 15);
@@ -1102,6 +1170,24 @@ public final class PromiseTest {
         }
         due("none", x.undo(), -1);
         due("the first three stay", x.count(6), 93);
+        ForkCouncil y = told("fork a 500 0 5 0;motion m 500 3;purse 0 0;");
+        y.earn(7);
+        y.file(0, 5);
+        y.put(0, 50);
+        for (int i = 0; i < 9; i++) {
+            y.touch(0, true);
+            y.put(0, 10 + i);
+            y.touch(0, false);
+        }
+        due("the last 20 of 30", y.count(14), 20);
+        for (int i = 19; i >= 0; i--) {
+            due("undo of 30", y.undo(), i);
+        }
+        due("none of the first ten", y.undo(), -1);
+        due("pence stay", y.count(6), 7);
+        due("pitch stays", y.fork(0, 0), 505);
+        due("the day of then", y.motion(0, 1), 11);
+        due("touched then", y.fork(0, 5), 1);
         x.earn(1);
         x.go(0);
         due("no day went by", x.count(14), 1);
