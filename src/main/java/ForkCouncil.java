@@ -19,6 +19,7 @@ public final class ForkCouncil {
     private static final int LAST_DAY = 9999;
     private static final int LAST_DAY_TO_GO = 9900;
     private static final int MOST_PENCE = 9999;
+    private static final int MOST_NUMBER = 99999;
     private static final int TABLE_UNTOLD = 10;
     private static final int PURSE_UNTOLD = 100;
     private static final int PRICE_UNTOLD = 5;
@@ -115,8 +116,12 @@ public final class ForkCouncil {
         if (n < 0 || n > reader.taped) {
             return -2;
         }
-        int lines = reader.read(n, spare);
-        if (lines == NONE) {
+        reader.begin(n, spare);
+        int lines = 0;
+        for (; lines < MAX_TAPE && reader.hasMore(); lines++) {
+            reader.readLine();
+        }
+        if (reader.faultKind != 0) {
             return NONE;
         }
         Told old = told;
@@ -850,7 +855,7 @@ public final class ForkCouncil {
             }
         }
 
-        int read(int n, Told into) {
+        void begin(int n, Told into) {
             draft = into;
             draft.clear();
             end = Math.min(n, MAX_TAPE);
@@ -859,14 +864,11 @@ public final class ForkCouncil {
             toldOnce = 0;
             faultKind = 0;
             faultPlace = NONE;
-            int lines = 0;
             advance();
-            for (int i = 0; i <= MAX_TAPE && token != END && faultKind == 0; i++) {
-                readLine();
-                pass(SEMICOLON);
-                lines++;
-            }
-            return faultKind == 0 ? lines : NONE;
+        }
+
+        boolean hasMore() {
+            return token != END && faultKind == 0;
         }
 
         private void refuse(int kind) {
@@ -876,7 +878,7 @@ public final class ForkCouncil {
             }
         }
 
-        private void readLine() {
+        void readLine() {
             switch (token) {
                 case FORK:
                     readFork();
@@ -905,7 +907,7 @@ public final class ForkCouncil {
                     break;
                 case SEED:
                     passOnce();
-                    number(0, 99999);
+                    number(0, MOST_NUMBER);
                     break;
                 case LAW:
                     readLaw();
@@ -914,6 +916,7 @@ public final class ForkCouncil {
                     refuse(FAULT_TOKEN);
                     break;
             }
+            pass(SEMICOLON);
         }
 
         private void readFork() {
@@ -1168,17 +1171,18 @@ public final class ForkCouncil {
             return OWN_WORD;
         }
 
-        // A number beyond all bounds stays so however many digits follow.
         private void readNumber() {
             token = NUMBER;
             for (; at < end && isDigit(tape[at]); at++) {
-                value = Math.min(1000000, value * 10 + tape[at] - '0');
+                // What is beyond all bounds stays so, however many digits follow.
+                value = value > MOST_NUMBER ? value : value * 10 + tape[at] - '0';
             }
         }
 
         private void readSign() {
             int sign = tape[at];
             at++;
+            int next = at < end ? tape[at] : 0;
             switch (sign) {
                 case ';':
                     token = SEMICOLON;
@@ -1205,23 +1209,18 @@ public final class ForkCouncil {
                     token = EQUAL;
                     break;
                 case '<':
-                    token = follows('=') ? LESS_EQUAL : follows('>') ? UNEQUAL : LESS;
+                    token = next == '=' ? LESS_EQUAL : next == '>' ? UNEQUAL : LESS;
                     break;
                 case '>':
-                    token = follows('=') ? MORE_EQUAL : MORE;
+                    token = next == '=' ? MORE_EQUAL : MORE;
                     break;
                 default:
                     token = BAD;
                     break;
             }
-        }
-
-        private boolean follows(int sign) {
-            if (at < end && tape[at] == sign) {
+            if (token == LESS_EQUAL || token == UNEQUAL || token == MORE_EQUAL) {
                 at++;
-                return true;
             }
-            return false;
         }
     }
 
