@@ -704,25 +704,29 @@ public final class ForkCouncil {
             int height = 0;
             for (int i = start[rule]; i < end[rule]; i++) {
                 int token = tokens[i];
-                int sides = token == NOT ? 1 : token == NUMBER || token >= FIRST_NAME ? 0 : 2;
-                if (height < sides || height - sides >= MAX_KNOTS) {
-                    return ERROR;
-                }
-                long value;
-                if (sides == 0) {
-                    value = token == NUMBER ? numbers[i] : names[(token - FIRST_NAME) % NAMES];
-                } else if (sides == 1) {
-                    value = values[height - 1] == 0 ? 1 : 0;
+                if (token == NUMBER || token >= FIRST_NAME) {
+                    if (height >= MAX_KNOTS) {
+                        return ERROR;
+                    }
+                    values[height] = token == NUMBER ? numbers[i] : names[(token - FIRST_NAME) % NAMES];
+                    height++;
+                } else if (token == NOT) {
+                    if (height < 1) {
+                        return ERROR;
+                    }
+                    values[height - 1] = values[height - 1] == 0 ? 1 : 0;
                 } else {
-                    value = joined(token, values[height - 2], values[height - 1]);
+                    if (height < 2) {
+                        return ERROR;
+                    }
+                    height--;
+                    long value = joined(token, values[height - 1], values[height]);
+                    // ERROR itself is beyond the bound, too.
+                    if (value > MOST_VALUE || value < -MOST_VALUE) {
+                        return ERROR;
+                    }
+                    values[height - 1] = value;
                 }
-                // ERROR itself is beyond the bound, too.
-                if (value > MOST_VALUE || value < -MOST_VALUE) {
-                    return ERROR;
-                }
-                height -= sides;
-                values[height] = value;
-                height++;
             }
             return height == 1 ? values[0] : ERROR;
         }
