@@ -1689,6 +1689,11 @@ public final class BoundaryTest {
             due("501", row.bribe(501, 4), -8);
             due("300", row.bribe(300, 4), -8);
         }
+        row = told("law pass note=500;");
+        for (int i = 0; i < 3; i++) {
+            due("as loud at 500", row.bribe(500, 4), 0);
+            due("as loud at 501", row.bribe(501, 4), -8);
+        }
         says("21", "those who are TOUCHED don't HUM by filing");
         ForkCouncil x = told("fork a 501 0 9 0;table 9;");
         x.touch(0, true);
@@ -2120,6 +2125,15 @@ public final class BoundaryTest {
             x.known(n);
             due("KNOWN by " + n, x.widths(0), n % 2 == 1 ? 1016 : 1023);
         }
+        says("33", "as it goes from the TEXT on, whatever was tried ahead");
+        x = told("fork a 500 0 9 0;fork b 300 0 9 0;crack b;motion m 500 1;table 18;rusty 5;");
+        x.minute(0, true);
+        for (int what = 0; what <= 5; what++) {
+            x.tried(what, 0, 9);
+            due("behind tried(" + what + ")", x.widths(0), 1022);
+        }
+        x.chance(1, 9, 1);
+        due("behind chance", x.widths(0), 1022);
         leaves("widths(0)", y -> y.widths(0), 1023);
         leaves("widths(2)", y -> y.widths(2), 1023);
     }
