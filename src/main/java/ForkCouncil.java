@@ -85,8 +85,6 @@ public final class ForkCouncil {
 
     private final Reader reader = new Reader();
     private Told told = new Told();
-    // A text with a fault must leave all as it was, so it is read into a spare.
-    private Told spare = new Told();
     private final State now = new State();
     private final State trial = new State();
     private final State image = new State();
@@ -116,7 +114,7 @@ public final class ForkCouncil {
         if (n < 0 || n > reader.taped) {
             return -2;
         }
-        reader.begin(n, spare);
+        reader.begin(n);
         int lines = 0;
         for (; lines < MAX_TAPE && reader.hasMore(); lines++) {
             reader.readLine();
@@ -124,9 +122,7 @@ public final class ForkCouncil {
         if (reader.faultKind != 0) {
             return NONE;
         }
-        Told old = told;
-        told = spare;
-        spare = old;
+        told = reader.exchange(told);
         now.begin(told);
         deeds.size = 0;
         minutes.forget();
@@ -829,7 +825,8 @@ public final class ForkCouncil {
         private int taped;
         private int faultKind;
         private int faultPlace = NONE;
-        private Told draft;
+        // A text with a fault must leave all as it was, so it is read apart from what is told.
+        private Told draft = new Told();
         private int end;
         private int at;
         private int token;
@@ -859,8 +856,7 @@ public final class ForkCouncil {
             }
         }
 
-        void begin(int n, Told into) {
-            draft = into;
+        void begin(int n) {
             draft.clear();
             end = Math.min(n, MAX_TAPE);
             at = 0;
@@ -869,6 +865,13 @@ public final class ForkCouncil {
             faultKind = 0;
             faultPlace = NONE;
             advance();
+        }
+
+        /** Hands over what was read, for one that may be read into from now on. */
+        Told exchange(Told old) {
+            Told read = draft;
+            draft = old;
+            return read;
         }
 
         boolean hasMore() {

@@ -36,6 +36,7 @@ public final class LanguageTest {
     public static void main(String[] args) throws Exception {
         face();
         classesInside();
+        nothingIsNull(new ForkCouncil(), new ArrayList<>());
         source(Path.of(args[0], "src/main/java/ForkCouncil.java"));
         room();
         System.out.println(wrong == 0 ? "the language is kept to" : wrong + " rules are broken");
@@ -85,6 +86,22 @@ public final class LanguageTest {
                 due(method + " takes at most seven", method.getParameterCount() <= 7, true);
                 boolean clash = !Modifier.isPublic(method.getModifiers()) && open.contains(method.getName());
                 due(method + " bears the name of a public one", clash, false);
+            }
+        }
+    }
+
+    /** Rule 7: what is never null needs no look before it is used. */
+    private static void nothingIsNull(Object one, List<Object> seen) throws Exception {
+        seen.add(one);
+        for (Field field : one.getClass().getDeclaredFields()) {
+            if (Modifier.isStatic(field.getModifiers()) || field.getType().isPrimitive()) {
+                continue;
+            }
+            field.setAccessible(true);
+            Object held = field.get(one);
+            due(field + " of a new object is null", held == null, false);
+            if (held != null && !held.getClass().isArray() && seen.stream().noneMatch(other -> other == held)) {
+                nothingIsNull(held, seen);
             }
         }
     }
